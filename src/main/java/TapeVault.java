@@ -396,16 +396,17 @@ public final class TapeVault {
         int care;
         int powerLeft = NEVER;
 
-        int work() {
+        /** A step of work, if there is power for it; without power it is a CUT. */
+        boolean work() {
             if (powerLeft == 0) {
                 powerLeft = NEVER;
-                return CUT;
+                return false;
             }
             if (powerLeft > 0) {
                 powerLeft--;
             }
             clock++;
-            return DONE;
+            return true;
         }
     }
 
@@ -564,11 +565,12 @@ public final class TapeVault {
         int uses;
         int blocksDone;
         boolean jammed;
+        /** Told only while the drive is not jammed. */
         int blocksToJam = NEVER;
         /** The tape that the drive is taken for, or null. */
         Tape mounted;
         int carried;
-        boolean loaded;
+        /** Where the tape stands; 0 also while it is carried, when there is nothing to wind back. */
         int position;
 
         Drive(int where, Effort shared) {
@@ -586,15 +588,13 @@ public final class TapeVault {
 
         int carry(Tape tape) {
             mounted = tape;
-            loaded = false;
             position = 0;
             int way = distance(tape);
             for (carried = 0; carried < way; carried++) {
-                if (effort.work() != DONE) {
+                if (!effort.work()) {
                     return CUT;
                 }
             }
-            loaded = true;
             uses++;
             tape.mounts++;
             return DONE;
@@ -603,7 +603,7 @@ public final class TapeVault {
         /** A tape is wound once in a mount, from 0, so always forwards. */
         int windTo(int place) {
             while (position < place) {
-                if (effort.work() != DONE) {
+                if (!effort.work()) {
                     return CUT;
                 }
                 position++;
@@ -615,10 +615,9 @@ public final class TapeVault {
         int passBlock() {
             if (blocksToJam == 0) {
                 jammed = true;
-                blocksToJam = NEVER;
                 return JAM;
             }
-            if (effort.work() != DONE) {
+            if (!effort.work()) {
                 return CUT;
             }
             if (blocksToJam > 0) {
@@ -679,13 +678,12 @@ public final class TapeVault {
         }
 
         void bringHome() {
-            if (loaded && mounted != null) {
-                effort.care += jammed ? 3 * position : position;
+            effort.care += jammed ? 3 * position : position;
+            if (mounted != null) {
                 mounted.wear += position;
             }
             effort.care += carried;
             mounted = null;
-            loaded = false;
         }
     }
 }

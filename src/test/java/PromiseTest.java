@@ -262,9 +262,13 @@ public final class PromiseTest {
         due("NO_ROOM for a TAIL, before JAM and CUT", y.copy(0), -6);
         due("no VOID, no care for one", y.told(1), before + 100 + 1);
         kinds(y, 0, 96, "1222");
+        due("no place behind the last one", y.block(0, 100, 0), -1);
         due("place(2, 0)", y.place(2, 0), -2);
         due("power", y.told(4), 0);
         driveIs(y, 0, 4, 100, 0);
+        y.power(-1);
+        y.fix(0);
+        due("a scan looks for the TAIL behind the last place", y.scan(0), 1);
         TapeVault z = vault(8);
         z.stage(1, 30, 0, 0);
         z.copy(0);
@@ -276,6 +280,8 @@ public final class PromiseTest {
         z.stage(1, 1, 0, 0);
         due("NO_ROOM for a HEAD", z.copy(0), -6);
         kinds(z, 0, 96, "1224");
+        due("a scan looks for the TAIL far behind the last place", z.scan(0), 1);
+        due("place(1, 0)", z.place(1, 0), 64);
     }
 
     private static void mounts() {
@@ -308,6 +314,9 @@ public final class PromiseTest {
         due("scan(0)", x.scan(0), -3);
         due("salvage(1)", x.salvage(1), -3);
         effort(x, clock, care, 8, 7, 0);
+        x.tape(17);
+        due("move(1, 0, 1)", x.move(1, 0, 1), -3);
+        effort(x, clock, care, 9, 8, 0);
     }
 
     private static void read() {
