@@ -21,6 +21,10 @@ final class Check {
         }
     }
 
+    static int asked() {
+        return asked;
+    }
+
     static void that(String what, boolean holds) {
         due(what, holds ? 1 : 0, 1);
     }
