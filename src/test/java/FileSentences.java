@@ -634,7 +634,8 @@ final class FileSentences extends SentenceCase {
         }
     }
 
-    @Sentence(promise = 8, words = "The catalogue has of this tape then the files whose blocks all told, of one name the last one, and no other ones:")
+    @Sentence(promise = 8, words = "The catalogue has of this tape then the files whose blocks all told, "
+        + "of one name the last one, and no other ones:")
     static void ofOneNameTheLastThatToldAll() {
         TapeVault x = vault(8, 16);
         for (int k = 0; k < 3; k++) {

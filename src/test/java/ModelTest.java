@@ -18,8 +18,8 @@ public final class ModelTest {
 
     private ModelTest(int run) {
         state = run * 7919L + 17;
-        tapes = 1 + run % 5;
-        names = 1 + run % 3;
+        tapes = run % 8 == 7 ? 12 : 1 + run % 5;
+        names = run % 16 == 9 ? 40 : 1 + run % 3;
     }
 
     public static void main(String[] args) {

@@ -285,9 +285,11 @@ final class MountSentences extends SentenceCase {
             due("the end there", x.tapeTold(0, 1), 6);
             due("the end here", x.tapeTold(1, 1), 4 + written + closed);
             x.power(-1);
-            int uses = x.driveTold(0, 0);
+            int first = x.driveTold(0, 0);
+            int second = x.driveTold(1, 0);
             due("move(5, 0, 1)", x.move(5, 0, 1), 4 + written + closed);
-            due("uses of drive 0", x.driveTold(0, 0), uses + 1);
+            due("uses of drive 0", x.driveTold(0, 0), first + 1);
+            due("uses of drive 1", x.driveTold(1, 0), second + 1);
         }
     }
 
@@ -424,8 +426,17 @@ final class MountSentences extends SentenceCase {
         due("drive 0", x.driveTold(0, 2), 0);
         due("drive 1", x.driveTold(1, 2), 1);
         due("drive 2", x.driveTold(2, 2), 0);
+        due("blocks of drive 0", x.driveTold(0, 1), 3 + 3);
+        due("blocks of drive 1", x.driveTold(1, 1), 2);
         due("read(5, 0), drive 0 had done three", x.read(5, 0), JAM);
         due("drive 0", x.driveTold(0, 2), 1);
+        due("no block more", x.driveTold(0, 1), 3 + 3);
+        TapeVault y = withFile(5, 1, 8, 16);
+        y.jam(1, 3);
+        y.jam(0, 3);
+        due("move(5, 0, 1), just as many blocks", y.move(5, 0, 1), 0);
+        due("drive 0", y.driveTold(0, 2), 0);
+        due("drive 1", y.driveTold(1, 2), 0);
     }
 
     @Sentence(promise = 18, words = "it is one work step;")

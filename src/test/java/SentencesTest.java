@@ -26,9 +26,12 @@ public final class SentencesTest {
     public static void main(String[] args) throws Exception {
         Document document = new Document();
         for (int promise = 1; promise <= 19; promise++) {
-            for (Method test : tests(promise)) {
+            List<Method> tests = tests(promise);
+            for (Method test : tests) {
                 run(test, document);
             }
+            Check.part("promise " + promise);
+            Check.that("it has tests of its own", !tests.isEmpty());
         }
         Check.part("words that name no boundary");
         for (String words : NO_BOUNDARY) {

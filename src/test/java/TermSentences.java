@@ -214,6 +214,25 @@ final class TermSentences extends SentenceCase {
     }
 
     @Sentence(promise = 8, words = "A FILE on a tape is a HEAD, as many data as it tells, and a TAIL, one behind the other.")
+    static void halfAFileIsNoneAlsoIfATailIsWhereItsTailWouldBe() {
+        TapeVault x = vault(8);
+        x.jam(0, 1);
+        due("copy(0), JAM behind the HEAD", write(x, 5, 3, 0), JAM);
+        x.fix(0);
+        due("another file, whose TAIL is at 4", write(x, 6, 2, 0), 1);
+        kinds(x, 0, 0, "112230");
+        due("scan(0)", x.scan(0), 1);
+        due("place(5, 0)", x.place(5, 0), NOTHING);
+        TapeVault y = vault(8);
+        y.power(1 + 1);
+        due("copy(0), CUT behind the HEAD", write(y, 5, 4, 0), CUT);
+        due("another file, whose TAIL is at 5", write(y, 6, 2, 0), 2);
+        kinds(y, 0, 0, "1412230");
+        due("scan(0)", y.scan(0), 1);
+        due("place(5, 0)", y.place(5, 0), NOTHING);
+    }
+
+    @Sentence(promise = 8, words = "A FILE on a tape is a HEAD, as many data as it tells, and a TAIL, one behind the other.")
     static void theSmallestAndTheLargestFileUpToTheLastPlaceAreFiles() {
         for (int size = 1; size <= 30; size += 29) {
             TapeVault x = vault(8);
