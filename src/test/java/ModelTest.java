@@ -43,6 +43,8 @@ public final class ModelTest {
                 change();
             }
         }
+        // What a later call answers would be free.
+        Check.due("the calls of the object", calls, CALLS);
     }
 
     /** A linear sequence of fixed start, so that each run of the test is the same. */
@@ -154,7 +156,7 @@ public final class ModelTest {
     private void ask() {
         int tape = tape();
         int what = usually(below(5));
-        switch (below(6)) {
+        switch (below(7)) {
             case 0: case 1:
                 due("told(" + what + ")", vault.told(what), model.told(what));
                 break;
@@ -170,10 +172,13 @@ public final class ModelTest {
             case 4:
                 due("tapeTold(" + tape + ", " + what + ")", vault.tapeTold(tape, what), model.tapeTold(tape, what));
                 break;
-            default: {
+            case 5: {
                 int drive = usually(below(3));
-                int name = name();
                 due("driveTold(" + drive + ", " + what + ")", vault.driveTold(drive, what), model.driveTold(drive, what));
+                break;
+            }
+            default: {
+                int name = name();
                 due("place(" + name + ", " + tape + ")", vault.place(name, tape), model.place(name, tape));
                 break;
             }
